@@ -101,6 +101,8 @@ final class FilterTest {
     private static void ofTexts() {
         ofText("aZ`{@[1", "up", 3, "AZ`{@[1");
         ofText("aZ`{@[z", "low", 3, "az`{@[z");
+        ofText("Zz", "low", 3, "zz");
+        ofText("1a2", "int", 1, "2");
         ofText("abc", "rev", 3, "cba");
         ofText("abcd", "rev", 3, "dcba");
         ofText("", "rev|len", 1, "0");
@@ -176,6 +178,8 @@ final class FilterTest {
         x.number(0, 5);
         Check.due("no FILTERS", x.filter(0), -100);
         Check.due("up|", Check.filter(x, 0, "up|"), -103);
+        Check.due("xp", Check.filter(x, 0, "xp"), -100);
+        Check.due("ux", Check.filter(x, 0, "ux"), -100);
         Check.due("|up", Check.filter(x, 0, "|up"), -100);
         Check.due("inc:1 ", Check.filter(x, 0, "inc:1 "), -105);
         Check.due("inc:123456", Check.filter(x, 0, "inc:123456"), -109);

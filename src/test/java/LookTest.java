@@ -7,6 +7,7 @@ final class LookTest {
         wholes();
         blocks();
         deep();
+        mostLinks();
         chains();
         steps();
         nothingWorkedOut();
@@ -133,6 +134,21 @@ final class LookTest {
         Check.due("branches aside", looked(x, 0, 0), "0");
         Check.template(x, 1, "{=A}{/}{=B}{/}{=C}{/}{=D}{/}{>2}{>2}{>2}{>2}{>2}");
         Check.due("one behind another", looked(x, 0, 0), "0");
+        Check.template(x, 1, "{=A}{/}{>2}{=B}{/}{=C}\n{=D}{=A}{/}{>2}{>3}{/}{/}");
+        Check.template(x, 3, "{>2}");
+        Check.due("one behind another, and within 8", looked(x, 0, 0), "! 0.1.10 1.2.10 3.1.7");
+    }
+
+    /** As many links as can be: six for each of nine TEMPLATES within one another. */
+    private static void mostLinks() {
+        TemplatePress x = told("{<1}", "{<2}", "{<3}", "{<4}", "{<5}", "\n\n{>0}");
+        StringBuilder due = new StringBuilder("!");
+        for (int i = 0; i < 9; i++) {
+            for (int k = 0; k < 5; k++) due.append(" ").append(k).append(".1.11");
+            due.append(i < 8 ? " 5.3.10" : " 5.3.7");
+        }
+        Check.due("as many links as can be", looked(x, 0, 0), due.toString());
+        Check.due("told(1)", x.told(1), 54);
     }
 
     private static void chains() {

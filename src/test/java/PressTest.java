@@ -87,6 +87,10 @@ final class PressTest {
         page("{*h d|sort|cut:2}{h}.{/}{?h}x{:}y{/}", "10.20.y");
         page("{*d d}{d}.{/}{d}", "30.10.20.30,10,20");
         page("{*a d}{@d=e}{@a=#}{a}{/}{a}", "0125");
+        page("{*a d}{?a}{*h d|cut:2|rev}{h}.{/}{/};{/}", "10.30.;10.30.;10.30.;");
+        page("{*a d}{?g}{:}{*h d|cut:2|rev}{h}.{/}{/};{/}", "10.30.;10.30.;10.30.;");
+        page("{*a d}{=A}{*h d|cut:2|rev}{h}.{/}{/};{/}", "10.30.;10.30.;10.30.;");
+        page("{*a d}{*h e}{:}{*h d|cut:2|rev}{h}.{/}{/};{/}", "10.30.;10.30.;10.30.;");
         page("{*a d}{?a<15}{#}{/}{/}", "1");
     }
 
@@ -103,6 +107,28 @@ final class PressTest {
         Check.template(x, 1, "{@h=h|or:3}{h}{@h=h|inc:1}");
         Check.template(x, 0, "{>1}{h}{@h=7}{>1}{h}");
         Check.due("names in parts", Check.pressed(x, 0), "377");
+        manyNames();
+    }
+
+    /** Many presses of many names, some of which end with a fault. */
+    private static void manyNames() {
+        TemplatePress x = filled();
+        Check.list(x, 3, 1, 2, 3, 4, 5, 6);
+        Check.template(x, 0, "{*a d}{*b d}{@h=a|mul:10}{@h=h|inc:1}{@h=h|inc:5}{@c=h}{/}{/}{h}{c}{b}{a}");
+        Check.template(x, 1, "{*a d}{*b d}{@h=a}{@c=h}{@d=c}{?a=6}{?b=6}{h|up}{/}{/}{/}{/}");
+        for (int i = 0; i < 40; i++) {
+            Check.due("many names", Check.pressed(x, 0), "a&l;&a;\"`\\;-Z5.0005");
+            Check.due("many names and a fault", Check.pressed(x, 1), "! 1.1.2");
+            Check.due("d behind", Check.shown(x, 3), "1,2,3,4,5,6");
+            Check.due("h behind", x.of(7, 0), 0);
+        }
+        // 50 names at once in each of six parts
+        StringBuilder b = new StringBuilder();
+        for (int i = 0; i < 25; i++) b.append("{@b=b}");
+        for (int k = 1; k < 6; k++) Check.template(x, k, b + (k < 5 ? "{>" + (k + 1) + "}" : "{b}"));
+        Check.template(x, 0, "{@b=1}{>1}{@b=2}{>1}{b}");
+        Check.due("names at once", Check.pressed(x, 0), "122");
+        Check.due("b behind", Check.shown(x, 1), "5.000");
     }
 
     private static TemplatePress told(String... texts) {
@@ -130,6 +156,8 @@ final class PressTest {
         Check.due("loops around blocks", Check.pressed(x, 1), "030.110.220.");
         x = told("<{=A}{/}>", "{<0}{=A}{'<'}{/}");
         Check.due("contexts around blocks", Check.pressed(x, 1), "<_>");
+        x = told("{=A}a{/}{=B}b{/}", "{<0}{=A}({=B}{/}{^}{=C}{/}{^}){/}");
+        Check.due("{^} behind other blocks", Check.pressed(x, 1), "(aa)");
         x = told("{=A}0{/}", "{<0}", "{<1}{=A}2{^}{/}");
         Check.due("a TEMPLATE without one between", Check.pressed(x, 2), "20");
     }
@@ -266,6 +294,14 @@ final class PressTest {
         Check.due("page(3)", x.page(3), 10);
         Check.due("page(4)", x.page(4), -1);
         Check.due("page(-1)", x.page(-1), -1);
+        Check.template(x, 2, "c");
+        Check.due("press(2)", x.press(2), 1);
+        Check.due("the sum of a shorter PAGE", x.told(6), 99);
+        Check.due("bytes 10 of a shorter PAGE", x.told(7), 0);
+        Check.template(x, 2, "\nabc\n");
+        x.press(2);
+        Check.due("bytes 10", x.told(7), 2);
+        x.press(0);
         Check.due("a failed one", x.press(1), -20);
         Check.due("THE PAGE stays", Check.page(x), "a\nb\n");
         Check.due("WHY is anew", Check.why(x), "1.0.1");

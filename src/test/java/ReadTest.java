@@ -190,6 +190,8 @@ final class ReadTest {
         Check.template(x, 0, "{'abc'}gh{#}");
         Check.due("what it EXTENDS, nothing", x.has(0, 2), -5);
         Check.due("no VARIABLES in texts and bytes", x.has(0, 5), 0);
+        Check.template(x, 0, "{=A}{/}{=C}{=A}{/}{/}");
+        Check.due("B's", x.has(0, 3), 5);
         Check.template(x, 0, "{h}{?g<f}{/}");
         Check.due("VARIABLES", x.has(0, 5), 224);
     }

@@ -42,7 +42,12 @@ final class RowsTest {
         x.set(1, 1, 7);
         Check.due("row(1, 1, 3) again", x.row(1, 1, 3), 1);
         Check.due("all 0", held(x, 1), "0 0 0");
-        x.set(1, 1, 7);
+        x.set(1, 0, 7);
+        x.row(1, 2, 2);
+        Check.due("all 0 as floats", held(x, 1), "0 0");
+        x.set(1, 0, 7);
+        x.row(1, 1, 2);
+        Check.due("all 0 as ints", held(x, 1), "0 0");
         x.row(1, 2, 2);
         Check.due("all 0 as floats", held(x, 1), "0 0");
         x.set(1, 1, 7);
