@@ -39,6 +39,15 @@ final class Check {
         return x.template(k);
     }
 
+    /** The press, with texts that are read without a fault as its TEMPLATES 0, 1 and so on. */
+    static TemplatePress told(TemplatePress x, String... texts) {
+        for (int k = 0; k < texts.length; k++) {
+            int answer = template(x, k, texts[k]);
+            due("template " + texts[k], answer < 0 ? answer : 0, 0);
+        }
+        return x;
+    }
+
     static int text(TemplatePress x, int variable, String text) {
         feed(x, text);
         return x.text(variable);

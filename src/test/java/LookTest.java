@@ -15,12 +15,7 @@ final class LookTest {
     }
 
     private static TemplatePress told(String... texts) {
-        TemplatePress x = new TemplatePress();
-        for (int k = 0; k < texts.length; k++) {
-            int answer = Check.template(x, k, texts[k]);
-            Check.due("template " + texts[k], answer < 0 ? answer : 0, 0);
-        }
-        return x;
+        return Check.told(new TemplatePress(), texts);
     }
 
     private static String looked(TemplatePress x, int k, int context) {
@@ -149,6 +144,12 @@ final class LookTest {
         }
         Check.due("as many links as can be", looked(x, 0, 0), due.toString());
         Check.due("told(1)", x.told(1), 54);
+        for (String around : new String[] {"{?1}", "{*a d}", "{?1}{:}", "{*a d}{:}"}) {
+            x = told(around.repeat(4) + "\n{>0}{/}{/}{/}{/}");
+            due = new StringBuilder("!");
+            for (int i = 0; i < 8; i++) due.append(" 0.2.10");
+            Check.due("itself within four of " + around, looked(x, 0, 0), due + " 0.2.7");
+        }
     }
 
     private static void chains() {

@@ -132,12 +132,7 @@ final class PressTest {
     }
 
     private static TemplatePress told(String... texts) {
-        TemplatePress x = filled();
-        for (int k = 0; k < texts.length; k++) {
-            int answer = Check.template(x, k, texts[k]);
-            Check.due("template " + texts[k], answer < 0 ? answer : 0, 0);
-        }
-        return x;
+        return Check.told(filled(), texts);
     }
 
     private static void blocks() {
@@ -165,6 +160,14 @@ final class PressTest {
     private static void parts() {
         TemplatePress x = told("{>1}-{*a d}{>1}{/}", "{a}{?h}{#}{/}{>2}", "{<3}{=A}two{/}", "[{=A}{/}]");
         Check.due("parts", Check.pressed(x, 0), "5[two]-30[two]10[two]20[two]");
+        for (String around : new String[] {"{?1}", "{*b f}", "{?!1}{:}", "{*b e}{:}"}) {
+            String[] texts = new String[6];
+            for (int k = 0; k < 6; k++) texts[k] = "{@f=d|cut:1}" + around.repeat(4) + "(" + (k < 5 ? "{>" + (k + 1) + "}" : "{a}") + "){/}{/}{/}{/}";
+            Check.due("six TEMPLATES of " + around, Check.pressed(told(texts), 0), "((((((5))))))");
+        }
+        x = told("{=A}{?1}{=C}{?1}{>1}{/}{/}{/}{/}", "{=A}{?1}{=C}{?1}{>2}{/}{/}{/}{/}", "{?1}{?1}{?1}{?1}{>3}{/}{/}{/}{/}",
+            "{?1}{?1}{?1}{?1}{a}{/}{/}{/}{/}");
+        Check.due("blocks in parts", Check.pressed(x, 0), "5");
         x = told("{*a d}{>1}{/}", "{#}{*h d}{#}{/};");
         Check.due("turns from where it was PRINTED", Check.pressed(x, 0), "0012;1012;2012;");
         x = told("{=A}0{>1}{/}", "{<2}{=A}1{/}", "{=A}2{/}");
