@@ -141,6 +141,7 @@ final class EdgeContextsTest {
         told("{?a}>{:}\"{/}").fails("look(0, 1)", "0.1.3");
         told("{?a}>{:}\"{/}").due("look(0, 3)", 3);
         told("{?a}{:}{/}{?a}{/}").due("look(0, 2)", 2);
+        told("{?a}<{:}>{/}").fails("look(0, 0)", "0.1.3");
         // ahead of the whole
         told("{?a}<{/}").fails("look(0, 0)", "0.1.3");
         told("{?a}<{:}<{/}").fails("look(0, 0)", "0.0.3");
@@ -153,6 +154,10 @@ final class EdgeContextsTest {
         told("\n{*a b}{:}<{/}>").fails("look(0, 0)", "0.2.3");
         // both in one CONTEXT is not enough
         told("{*a b}<{:}<{/}>").fails("look(0, 0)", "0.1.3");
+        // {:}'s T goes on from what was ahead, too
+        told("{*a b}<{:}>{/}").fails("look(0, 0)", "0.1.3");
+        told("<{*a b}>{:}<{/}").fails("look(0, 1)", "0.1.3");
+        told("{*a b}x{:}{@a='<'}>{/}").due("look(0, 0)", 0);
         told("<{*a b}>{:}>{/}").fails("look(0, 0)", "0.1.3");
         told("<{*a b}><{:}\"\"{/}>").due("look(0, 0)", 0);
         told("{*a b}<{/}").due("look(0, 1)", 1).due("look(0, 2)", 2).due("look(0, 3)", 3).fails("look(0, 0)", "0.1.3");

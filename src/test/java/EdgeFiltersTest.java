@@ -349,8 +349,8 @@ final class EdgeFiltersTest {
         // as many FILTERS as THE TAPE holds
         StringBuilder most = new StringBuilder("int");
         for (int i = 1; i < 40; i++) most.append("|int");
-        r.filter(0, most + "", 1).feed(most + "|").due("told(4)", 160).refusedReading("filter(0)", -260);
-        r.due("of(0, 2)", 7);
+        r.filter(0, most + "", 1).due("of(0, 2)", 7).feed(most + "|").due("told(4)", 160).refusedReading("filter(0)", -260);
+        r = ofInt(5).feed(most.substring(4) + "|half").due("told(4)", 160).due("filter(0)", 1).due("of(0, 2)", 2);
     }
 
     static void faultsOfFilters() {

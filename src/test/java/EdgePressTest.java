@@ -130,6 +130,7 @@ final class EdgePressTest {
         puts("{?'0123456789abcdef'='0123456789abcdef'}1{/}{?'0123456789abcdee'<'0123456789abcdef'}2{/}", "12");
         puts("{?'0123456789abcdef'<'0123456789abcdee'}x{/}{?'0123456789abcde'<'0123456789abcdef'}1{/}", "1");
         puts("{?c='ab'}1{/}{?c|cut:1<c}2{/}", "12");
+        puts("{?'a'='b'}x{/}{?'b'='a'}x{/}{?'ab'='aa'}x{/}{?'aa'='ab'}x{/}{?'ab'='a'}x{/}{?''='a'}x{/}", "");
     }
 
     static void kindOfComparisons() {
@@ -220,6 +221,11 @@ final class EdgePressTest {
         with("{@h=7}{>1}{*h d}{?h}{=A}{h}{/}{/}{/}{h}", "{h}").pressed(0, "73010207");
         puts("{@a=6}{?1}{@a=7}{?1}{@a=8}{a}{/}{a}{/}{a}", "876");
         puts("{*a d}{@d=g}{@a=1}{a}{/}{d}", "11130,10,20");
+        // what an earlier PRINTING kept comes no more
+        Run r = with("{?1}{@h=1}{@b=1}{@c=1}{h}{/}", "{?1}{@a=1}{a}{/}").pressed(0, "1").due("number(7, 9)", 0).due("number(1, 8)", 2);
+        r.pressed(1, "1").shows(7, "9").shows(1, "8").shows(2, "ab").pressed(0, "1").shows(7, "9");
+        r = with("{*a d}{@h=a}{@h=h|inc:1}{@h=h|inc:1}{h}{/}");
+        for (int i = 0; i < 100; i++) r.due("press(0)", 6).due("told(6)", 6 * '0' + 3 + 2 + 1 + 2 + 2 + 2).due("of(7, 0)", 0);
         // behind a T that ended with a fault
         with("{*a d}{@d=g}{?1}{@b=1}{@a=2}{c|len|up}{/}{/}").fails("press(0)", "0.1.2").shows(0, "5").shows(3, "30,10,20");
     }
@@ -326,6 +332,8 @@ final class EdgePressTest {
         for (int i = 0; i < 8; i++) eight.append("0.2.10 ");
         with("\n{>0}").fails("look(0, 0)", eight + "0.2.7").fails("press(0)", eight + "0.2.7");
         with("{=A}\n{=A}{/}{/}").fails("look(0, 0)", "0.2.7");
+        // closed ones ahead of each
+        with("{>1}{>1}{=A}{/}\n{>0}", "").fails("look(0, 0)", eight + "0.1.7");
     }
 
     static void steps() {
@@ -378,6 +386,7 @@ final class EdgePressTest {
         r.due("budget(2)", 3).fails("press(0)", "0.1.5").fails("press(2)", "2.1.5").page("123").due("budget(4)", 2).due("press(1)", 4);
         // looking through puts out nothing
         r.due("budget(0)", 4).due("look(0, 0)", 0).fails("press(0)", "0.1.5");
+        r = new Run("budget(1)").templates("xyz{'xyz'}", "{?0}xyz{:}w{/}").due("look(0, 0)", 0).pressed(1, "w").fails("press(0)", "0.1.5");
     }
 
     static void pressed() {

@@ -337,6 +337,12 @@ final class EdgeTextsTest {
         faulty("{b|up|", 6);
         faulty("{b|up|l", 6);
         faulty("{?b|up<b|lo}", 9);
+        // each name, with one byte of it another one
+        String[] names = {"up", "low", "rev", "len", "cut", "pad", "inc", "mul", "half", "third", "int", "real", "bits", "first", "last",
+            "sum", "sort", "or"};
+        for (String name : names) {
+            for (int i = 0; i < name.length(); i++) faulty("{b|" + name.substring(0, i) + "x" + name.substring(i + 1) + ":1}", 3);
+        }
         faulty("{b|" + many("z", 157), 3);
         faulty("{b|" + many("up|", 52), 159);
         faulty("xx{b|" + many("up|", 51) + "u}", 158);
