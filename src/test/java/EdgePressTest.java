@@ -159,6 +159,8 @@ final class EdgePressTest {
         puts("{*a g}x{/}", "");
         puts("{*a d|cut:1}{a}{:}x{/}", "30");
         puts("{*a d|cut:0}x{:}{a}{/}", "5");
+        puts("{*a g}x{:}{*h d}{h}{/}{/}", "301020");
+        puts("{*a d|cut:2}{*h d}{h}{/}{?1}{*h d|rev}{h}{/}{/};{/}", "301020201030;301020201030;");
         puts("{*d d}{d}{/}{d}", "30102030,10,20");
         new Run().list(0, 1, 2, 3, 4, 5, 6).templates("{*b a}{b}{:}x{/}").pressed(0, "123456");
         fault("\n{*a a}{/}", 2, 2);
